@@ -1,0 +1,58 @@
+/** What the tests share: a comparison that counts what is wrong, and small steps that many tests need. */
+final class Check {
+    private static int wrong = 0;
+
+    private Check() {
+    }
+
+    static void due(String what, Object want, Object got) {
+        if (!want.equals(got)) {
+            wrong++;
+            System.out.println(what + " answered " + got + ", due is " + want);
+        }
+    }
+
+    /** The very class is due: what the machine throws is often of a class below the one of the document. */
+    static void refused(String what, Class<? extends RuntimeException> want, Runnable call) {
+        due(what, "throws " + want.getName(), answerOf(call));
+    }
+
+    static void accepted(String what, Runnable call) {
+        due(what, "nothing thrown", answerOf(call));
+    }
+
+    private static String answerOf(Runnable call) {
+        try {
+            call.run();
+            return "nothing thrown";
+        } catch (RuntimeException e) {
+            return "throws " + e.getClass().getName();
+        }
+    }
+
+    static void type(CandleConcert concert, String text) {
+        for (int i = 0; i < text.length(); i++) {
+            concert.type(text.charAt(i));
+        }
+    }
+
+    static int run(CandleConcert concert, String text) {
+        type(concert, text);
+        return concert.run();
+    }
+
+    static String line(CandleConcert concert, int length) {
+        StringBuilder line = new StringBuilder();
+        for (int i = 0; i < length; i++) {
+            line.append(concert.charAt(i));
+        }
+        return line.toString();
+    }
+
+    static void end() {
+        System.out.println(wrong == 0 ? "all answers are as due" : wrong + " answers are not as due");
+        if (wrong != 0) {
+            System.exit(1);
+        }
+    }
+}
