@@ -42,6 +42,8 @@ public final class PromisesTest {
         syntaxErrors();
         failedCommands();
         undo();
+        undoOfEachChange();
+        undoOfFailures();
         undoOfEverything();
         saveAndRestore();
         Check.end();
@@ -160,6 +162,7 @@ public final class PromisesTest {
         x.pass(4);
         Check.refused("above 999", STATE, () -> x.pour(0, 2));
         Check.due("to 999", 999, x.pour(0, 1));
+        Check.refused("999 units are in range", UNSUPPORTED, () -> x.pour(1, 999));
         Check.due("onto one without wax", 3, x.pour(1, 3));
         Check.due("which can be lit again", 1, x.light(1));
     }
@@ -428,8 +431,8 @@ public final class PromisesTest {
     }
 
     private static void dark(String what, int minutes, CandleConcert x) {
-        Check.due("minutesUntilDark, " + what, minutes, x.minutesUntilDark());
         Check.due("minutesUntilDarkByLeaps, " + what, minutes, x.minutesUntilDarkByLeaps());
+        Check.due("minutesUntilDark, " + what, minutes, x.minutesUntilDark());
         Check.due("isConsistent, " + what, true, x.isConsistent());
     }
 
@@ -711,6 +714,48 @@ public final class PromisesTest {
         Check.due("eight minutes back", 22, x.time());
     }
 
+    // Promise 46, each change
+    private static void undoOfEachChange() {
+        CandleConcert x = two();
+        x.light(0);
+        x.pass(3);
+        x.schedule(9, 1, true);
+        x.setDraught(2);
+        Check.due("snuff", 2, x.snuff(0));
+        Check.due("pour", 3, x.pour(0, 1));
+        Check.due("unschedule", 0, x.unschedule(0));
+        Check.due("undo unschedule", 7, x.undo());
+        Check.due("events", "9l1", Check.line(x, x.writeEvents()));
+        Check.due("undo pour", 6, x.undo());
+        Check.due("dish", 3, x.dish());
+        Check.due("wax", 2, x.wax(0));
+        Check.due("undo snuff", 5, x.undo());
+        Check.due("lit", true, x.isLit(0));
+        Check.due("undo setDraught", 4, x.undo());
+        Check.due("draught", 0, x.draught());
+        Check.due("undo schedule", 3, x.undo());
+        Check.due("no events", 0, x.events());
+        Check.due("undo pass", 2, x.undo());
+        Check.due("time", 0, x.time());
+        Check.due("undo light", 1, x.undo());
+        Check.due("not lit", false, x.isLit(0));
+        Check.due("undo addCandle", 0, x.undo());
+        Check.due("candles", 1, x.candles());
+    }
+
+    private static void undoOfFailures() {
+        CandleConcert x = two();
+        x.schedule(1, 0, false);
+        x.schedule(2, 0, true);
+        x.schedule(3, 0, true);
+        x.pass(2);
+        x.pass(1);
+        Check.due("it was lit", 'l', x.failureReason());
+        x.undo();
+        Check.due("one failure is left", 1, x.failedEvents());
+        Check.due("its reason is back", 'n', x.failureReason());
+    }
+
     // Promise 46: what is undone, and what is not
     private static void undoOfEverything() {
         CandleConcert x = two();
@@ -749,6 +794,7 @@ public final class PromisesTest {
         Check.due("save", 2, x.save());
         Check.due("save is no change", 1, x.undo());
         Check.due("candles", 1, x.candles());
+        Check.due("another candle", 1, x.addCandle('a', 9, 9));
         Check.due("restore", 2, x.restore());
         Check.due("voice", 't', x.voice(1));
         Check.refused("nothing to undo", STATE, () -> x.undo());
