@@ -521,6 +521,11 @@ public final class PromisesTest {
             x.schedule(3 + 7 * i, i, true);
             x.schedule(30 + 5 * i, i, false);
         }
+        for (int i = 0; i < 10; i++) {
+            Check.due("of ten, rank " + i, 9 - i, x.candleByWax(i));
+        }
+        Check.refused("of ten, rank 10", NO_ELEMENT, () -> x.candleByWax(10));
+        Check.due("of ten, none sounds", 0, x.sounding('s'));
         for (int i = 0; i < 60; i++) {
             x.setDraught(i % 4);
             x.pass(1 + i % 5);
