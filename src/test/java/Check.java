@@ -1,30 +1,36 @@
+import java.util.function.Supplier;
+
 /** What the tests share: a comparison that counts what is wrong, and small steps that many tests need. */
 final class Check {
     private static int wrong = 0;
+    private static String about = "";
 
     private Check() {
+    }
+
+    /** The sentence of the document that the next answers are about: it is told ahead of each that is wrong. */
+    static void sentence(String where, String words) {
+        about = where + ": " + words + "\n    ";
     }
 
     static void due(String what, Object want, Object got) {
         if (!want.equals(got)) {
             wrong++;
-            System.out.println(what + " answered " + got + ", due is " + want);
+            System.out.println(about + what + " answered " + got + ", due is " + want);
         }
     }
 
     /** The very class is due: what the machine throws is often of a class below the one of the document. */
     static void refused(String what, Class<? extends RuntimeException> want, Runnable call) {
-        due(what, "throws " + want.getName(), answerOf(call));
-    }
-
-    static void accepted(String what, Runnable call) {
-        due(what, "nothing thrown", answerOf(call));
-    }
-
-    private static String answerOf(Runnable call) {
-        try {
+        due(what, "throws " + want.getName(), answer(() -> {
             call.run();
             return "nothing thrown";
+        }));
+    }
+
+    static Object answer(Supplier<Object> call) {
+        try {
+            return call.get();
         } catch (RuntimeException e) {
             return "throws " + e.getClass().getName();
         }

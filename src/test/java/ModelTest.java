@@ -37,15 +37,7 @@ public final class ModelTest {
             return;
         }
         calls++;
-        Check.due(name + calls + ": " + call, answer(model), answer(concert));
-    }
-
-    private static Object answer(Supplier<Object> call) {
-        try {
-            return call.get();
-        } catch (RuntimeException e) {
-            return "throws " + e.getClass().getName();
-        }
+        Check.due(name + calls + ": " + call, Check.answer(model), Check.answer(concert));
     }
 
     private int oneOf(int... numbers) {
