@@ -22,21 +22,25 @@ public final class CandlesBoundariesTest {
         snuffNoSuchCandle();
         snuffAnUnlitOne();
         pouredUnits();
+        pouredWax();
         pourOntoNoSuchCandle();
         pourUnitsOutOfRange();
         pourOntoALitOne();
         pourTooMuch();
         pourMoreThanTheDishHas();
         setDraught();
+        previousDraught();
         setDraughtOutOfRange();
         numberOfCandles();
         questionsAboutNoSuchCandle();
+        answersOfCandles();
         numberOfLitCandles();
         soundingOfEachVoice();
         soundingOfNoVoice();
         minutesUntilItGoesOut();
         minutesLeftWithoutWax();
         minutesLeftOfEach();
+        ranksFrom0();
         ranks();
         ranksOfEqualWax();
         noSuchRank();
@@ -107,8 +111,8 @@ public final class CandlesBoundariesTest {
     }
 
     private static void addWrongVoiceOrNumber() {
-        Check.sentence("Promise 2", "Throws `IllegalArgumentException` if there is no such voice, or a number is out of "
-            + "range");
+        Check.sentence("Promise 2", "Throws `IllegalArgumentException` if there is no such voice, or a number is out "
+            + "of range");
         CandleConcert x = new CandleConcert();
         Check.refused("only the voice", Refusals.ARGUMENT, () -> x.addCandle('u', 5, 5));
         Check.refused("only the wax", Refusals.ARGUMENT, () -> x.addCandle('s', 0, 5));
@@ -242,6 +246,16 @@ public final class CandlesBoundariesTest {
         Check.due("wax of both", 1000, x.wax(0) + x.wax(1));
     }
 
+    private static void pouredWax() {
+        Check.sentence("Promise 5", "Returns the wax of the candle afterwards");
+        CandleConcert x = richDish();
+        Check.due("onto one without wax", 7, x.pour(0, 7));
+        Check.due("onto one with wax", 57, x.pour(0, 50));
+        Check.due("the most", 999, x.pour(0, 942));
+        Check.due("wax", 999, x.wax(0));
+        Check.due("not lit by it", false, x.isLit(0));
+    }
+
     private static void pourOntoNoSuchCandle() {
         Check.sentence("Promise 5", "Throws `IndexOutOfBoundsException` if there is no such candle");
         noSuchCandle("pour", (x, candle) -> x.pour(candle, 1));
@@ -308,6 +322,17 @@ public final class CandlesBoundariesTest {
         }
     }
 
+    private static void previousDraught() {
+        Check.sentence("Promise 6", "Returns the previous draught");
+        CandleConcert x = new CandleConcert();
+        Check.due("the first", 0, x.setDraught(3));
+        Check.due("the greatest", 3, x.setDraught(0));
+        Check.due("the least", 0, x.setDraught(0));
+        x.setDraught(2);
+        x.undo();
+        Check.due("after an undo", 0, x.setDraught(1));
+    }
+
     private static void setDraughtOutOfRange() {
         Check.sentence("Promise 6", "Throws `IllegalArgumentException` if the draught is out of range");
         CandleConcert x = new CandleConcert();
@@ -347,6 +372,35 @@ public final class CandlesBoundariesTest {
         noSuchCandle("minutesLeftByBurning", (x, candle) -> x.minutesLeftByBurning(candle));
     }
 
+    private static void answersOfCandles() {
+        CandleConcert x = Concerts.ten();
+        for (int i = 0; i < 10; i += 3) {
+            x.light(i);
+        }
+        x.setDraught(3);
+        for (int i = 0; i < 10; i++) {
+            Check.sentence("Promise 11", "Returns the voice of a candle");
+            Check.due("candle " + i, "satb".charAt(i % 4), x.voice(i));
+            Check.sentence("Promise 12", "Returns the wax of a candle");
+            Check.due("candle " + i, 100 + i, x.wax(i));
+            Check.sentence("Promise 13", "Returns the consumption of a candle with the present draught");
+            Check.due("candle " + i, 8, x.consumption(i));
+            Check.sentence("Promise 14", "Returns true if it is lit");
+            Check.due("candle " + i, i % 3 == 0, x.isLit(i));
+        }
+        x.pass(13);
+        Check.sentence("Promise 12", "Returns the number of units");
+        Check.due("gone out", 0, x.wax(0));
+        Check.due("nearly gone out", 109 - 104, x.wax(9));
+        Check.sentence("Promise 14", "Returns whether a candle is lit");
+        Check.due("gone out", false, x.isLit(0));
+        Check.due("nearly gone out", true, x.isLit(9));
+        x.setDraught(0);
+        Check.sentence("Promise 13", "Returns the number of units for a minute");
+        Check.due("of one without wax", 5, x.consumption(0));
+        Check.due("of one with less wax", 5, x.consumption(9));
+    }
+
     private static void noSuchCandle(String call, CandleCall tried) {
         noSuchCandleBut(0, call, new CandleConcert(), tried);
         noSuchCandleBut(2, call, Concerts.two(), tried);
@@ -383,7 +437,7 @@ public final class CandlesBoundariesTest {
     }
 
     private static void soundingOfEachVoice() {
-        Check.sentence("Promise 16", "Returns the number of lit candles with a voice");
+        Check.sentence("Promise 16", "`voice`: the voice, one of the letters s, a, t and b");
         CandleConcert x = Concerts.ten();
         Check.due("none lit", 0, x.sounding('s'));
         for (int i = 0; i < 10; i++) {
@@ -393,6 +447,7 @@ public final class CandlesBoundariesTest {
         Check.due("a", 3, x.sounding('a'));
         Check.due("t", 2, x.sounding('t'));
         Check.due("b", 2, x.sounding('b'));
+        Check.sentence("Promise 16", "Returns the number of lit candles with a voice");
         x.pass(20);
         Check.due("s, one gone out", 2, x.sounding('s'));
         Check.due("s of no candles", 0, new CandleConcert().sounding('s'));
@@ -428,9 +483,9 @@ public final class CandlesBoundariesTest {
             Check.sentence("Promise 18", words);
             Check.due(what, row[3], x.minutesLeftByBurning(0));
             x.light(0);
-            Check.sentence("Promise 17", words);
+            Check.sentence("Promise 17", "`candle`: the candle, lit or not");
             Check.due(what + ", lit", row[3], x.minutesLeft(0));
-            Check.sentence("Promise 18", words);
+            Check.sentence("Promise 18", "`candle`: the candle, lit or not");
             Check.due(what + ", lit", row[3], x.minutesLeftByBurning(0));
             Check.due("wax afterwards", row[0], x.wax(0));
         }
@@ -454,12 +509,23 @@ public final class CandlesBoundariesTest {
         x.schedule(2, 0, false);
         for (int i = 0; i < 10; i++) {
             int minutes = i == 0 ? 20 : i <= 5 ? 21 : 22;
-            Check.sentence("Promise 17", "Returns for how many minutes a candle would burn if it was lit now and never "
-                + "snuffed, by a division");
+            Check.sentence("Promise 17", "Returns for how many minutes a candle would burn if it was lit now and "
+                + "never snuffed, by a division");
             Check.due("candle " + i, minutes, x.minutesLeft(i));
             Check.sentence("Promise 18", "Returns the same number, by letting the candle burn minute by minute");
             Check.due("candle " + i, minutes, x.minutesLeftByBurning(i));
         }
+    }
+
+    private static void ranksFrom0() {
+        Check.sentence("Promise 19", "`rank`: the rank, counted from 0");
+        CandleConcert x = new CandleConcert();
+        x.addCandle('s', 4, 1);
+        Check.due("rank 0 of one", 0, x.candleByWax(0));
+        Check.refused("rank 1 of one", Refusals.NO_ELEMENT, () -> x.candleByWax(1));
+        x.addCandle('s', 5, 1);
+        Check.due("rank 0 of two", 1, x.candleByWax(0));
+        Check.due("rank 1 of two", 0, x.candleByWax(1));
     }
 
     private static void ranks() {

@@ -161,8 +161,8 @@ public final class ConcertBoundariesTest {
     }
 
     private static void darkAfterMeetingMinutes() {
-        Check.sentence("Promise 29, 30", "Returns the same number, by going in one leap to each minute at which an event "
-            + "is carried out or a candle goes out");
+        Check.sentence("Promise 29, 30", "Returns the same number, by going in one leap to each minute at which an "
+            + "event is carried out or a candle goes out");
         CandleConcert x = Concerts.oneLit(12, 6);
         x.schedule(2, 0, false);
         dark("snuffed in its last minute", 2, x);
@@ -180,8 +180,8 @@ public final class ConcertBoundariesTest {
     }
 
     private static void darkAfterTheLongest() {
-        Check.sentence("Promise 29, 30", "Returns after how many minutes the concert will be dark for the first time if "
-            + "nothing but time passes");
+        Check.sentence("Promise 29, 30", "Returns after how many minutes the concert will be dark for the first time "
+            + "if nothing but time passes");
         CandleConcert x = new CandleConcert();
         x.addCandle('s', 999, 1);
         x.schedule(999, 0, true);
@@ -195,8 +195,8 @@ public final class ConcertBoundariesTest {
     }
 
     private static void darkOfFullOnes() {
-        Check.sentence("Promise 29, 30", "Returns after how many minutes the concert will be dark for the first time if "
-            + "nothing but time passes");
+        Check.sentence("Promise 29, 30", "Returns after how many minutes the concert will be dark for the first time "
+            + "if nothing but time passes");
         CandleConcert x = Concerts.full();
         dark("candle 8 is lit in minute 38 and burns on", 59, x);
         for (int passed = 0; passed < 59; passed++) {
@@ -362,8 +362,8 @@ public final class ConcertBoundariesTest {
     }
 
     private static void addedWaxInParts() {
-        Check.sentence("Promise 34", "as the sum of the wax of all candles, of the wax in the dish, and of all wax that "
-            + "was burnt");
+        Check.sentence("Promise 34", "as the sum of the wax of all candles, of the wax in the dish, and of all wax "
+            + "that was burnt");
         CandleConcert x = new CandleConcert();
         Check.due("none", 0L, x.addedWaxByParts());
         x.addCandle('s', 999, 9);
@@ -428,8 +428,8 @@ public final class ConcertBoundariesTest {
     }
 
     private static void shares() {
-        Check.sentence("Promise 37", "the quotient of the number of lit candles and the number of candles, both converted "
-            + "to float");
+        Check.sentence("Promise 37", "the quotient of the number of lit candles and the number of candles, both "
+            + "converted to float");
         for (int candles = 1; candles <= 10; candles++) {
             CandleConcert x = new CandleConcert();
             for (int i = 0; i < candles; i++) {

@@ -15,6 +15,7 @@ public final class EventsBoundariesTest {
         scheduledKind();
         scheduledPosition();
         scheduledPositionAmongEqualMinutes();
+        positionsFrom0();
         unschedulePositions();
         unscheduleNoSuchPosition();
         unscheduledDoesNotHappen();
@@ -92,7 +93,8 @@ public final class EventsBoundariesTest {
             CandleConcert x = count == 0 ? new CandleConcert() : count == 2 ? Concerts.two() : Concerts.ten();
             for (int candle : new int[] {-1, count, count + 1, 10, 11, MIN, MAX}) {
                 Check.refused("to light " + candle + " of " + count, Refusals.INDEX, () -> x.schedule(5, candle, true));
-                Check.refused("to snuff " + candle + " of " + count, Refusals.INDEX, () -> x.schedule(5, candle, false));
+                Check.refused("to snuff " + candle + " of " + count, Refusals.INDEX,
+                    () -> x.schedule(5, candle, false));
             }
             Check.due("events", 0, x.events());
         }
@@ -118,7 +120,8 @@ public final class EventsBoundariesTest {
     }
 
     private static void scheduledKind() {
-        Check.sentence("Promise 7", "`isLighting`: true if the event is to light the candle, false if it is to snuff it");
+        Check.sentence("Promise 7", "`isLighting`: true if the event is to light the candle, false if it is to snuff "
+            + "it");
         CandleConcert x = Concerts.two();
         x.schedule(1, 0, true);
         x.schedule(2, 0, false);
@@ -154,6 +157,27 @@ public final class EventsBoundariesTest {
         Check.due("one more in front", 1, x.schedule(49, 1, true));
         x.writeEvents();
         Check.due("order", "49l0 49l1 50l0 50s1 50s0 50l1 50s0 50s1 50l0 50l1 51l0", Answers.ofLine(x));
+    }
+
+    private static void positionsFrom0() {
+        String words = "counted from 0";
+        for (int position = 0; position < 3; position++) {
+            CandleConcert x = Concerts.ten();
+            x.schedule(7, 7, true);
+            x.schedule(8, 8, false);
+            x.schedule(9, 9, true);
+            Check.sentence("Promise 21", words);
+            Check.due("position " + position, 7 + position, x.eventMinute(position));
+            Check.sentence("Promise 22", words);
+            Check.due("position " + position, 7 + position, x.eventCandle(position));
+            Check.sentence("Promise 23", words);
+            Check.due("position " + position, position != 1, x.isLighting(position));
+            Check.sentence("Promise 8", words);
+            x.unschedule(position);
+            x.writeEvents();
+            String[] left = {"8s8 9l9", "7l7 9l9", "7l7 8s8"};
+            Check.due("left without position " + position, left[position], Answers.ofLine(x));
+        }
     }
 
     private static void unschedulePositions() {

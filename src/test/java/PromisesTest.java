@@ -639,8 +639,8 @@ public final class PromisesTest {
             "w", "wai", "waut", "candle", "candle x", "candle s", "candle s/", "candle s1234/", "candle s12/",
             "candle s12/x", "candle s12/34", "candle s12 ", "Candle s12/3", "light", "light x", "light 12", "lught",
             "snuff 1;x", "snuf 1", "pour 1", "pour 1-", "pour 1+", "pour 1+x", "pour 1+1234", "pour 12+", "px", "p",
-            "plan 5 l", "plan 5 x", "plan x", "plan 5l0", "plan 1234", "plan 5 l12", "plan 5  ", "draught", "draught 12",
-            "drx", "drop", "drop 1234", "drop 123;", "dr", "d", "dx", "wait\u0177", "wait 1\u0661"};
+            "plan 5 l", "plan 5 x", "plan x", "plan 5l0", "plan 1234", "plan 5 l12", "plan 5  ", "draught",
+            "draught 12", "drx", "drop", "drop 1234", "drop 123;", "dr", "d", "dx", "wait\u0177", "wait 1\u0661"};
         int[] errors = {0, 0, 5, 5, 0, 5, 5, 4, 8, 7, 0,
             1, 3, 2, 6, 7, 8, 8, 11, 11,
             11, 12, 10, 0, 5, 6, 7, 1,

@@ -226,8 +226,8 @@ public final class TermsBoundariesTest {
     }
 
     private static void ranges() {
-        Check.sentence("Terms", "A candle has a voice, which is one of the letters s (soprano), a (alto), t (tenor) and "
-            + "b (bass), wax from 0 to 999 units, and a rate from 1 to 9");
+        Check.sentence("Terms", "A candle has a voice, which is one of the letters s (soprano), a (alto), t (tenor) "
+            + "and b (bass), wax from 0 to 999 units, and a rate from 1 to 9");
         CandleConcert x = new CandleConcert();
         x.addCandle('s', 999, 1);
         x.addCandle('a', 5, 5);
@@ -320,13 +320,14 @@ public final class TermsBoundariesTest {
     }
 
     private static void orderOfEvents() {
-        Check.sentence("Terms", "The events are ordered by their minutes in ascending order; events with the same minute "
-            + "are in the order in which they were scheduled");
+        Check.sentence("Terms", "The events are ordered by their minutes in ascending order; events with the same "
+            + "minute are in the order in which they were scheduled");
         CandleConcert x = Concerts.ten();
         int[] minutes = {5, 999, 1, 5, 1, 999, 5, 4, 6, 1};
         int[] positions = {0, 1, 0, 2, 1, 5, 4, 2, 6, 2};
         for (int i = 0; i < minutes.length; i++) {
-            Check.due("position of " + minutes[i] + ", candle " + i, positions[i], x.schedule(minutes[i], i, i % 3 == 0));
+            Check.due("position of " + minutes[i] + ", candle " + i, positions[i],
+                x.schedule(minutes[i], i, i % 3 == 0));
         }
         x.writeEvents();
         Check.due("order", "1s2 1s4 1l9 4s7 5l0 5l3 5l6 6s8 999s1 999s5", Answers.ofLine(x));
@@ -411,8 +412,8 @@ public final class TermsBoundariesTest {
     }
 
     private static void eventsSecond() {
-        Check.sentence("Terms", "Second, the events whose minute is the time are carried out in their order, and are not "
-            + "scheduled any more");
+        Check.sentence("Terms", "Second, the events whose minute is the time are carried out in their order, and are "
+            + "not scheduled any more");
         CandleConcert x = Concerts.two();
         x.schedule(3, 0, true);
         x.schedule(2, 0, true);

@@ -9,12 +9,14 @@ public final class TextsBoundariesTest {
     public static void main(String[] args) {
         writtenCandle();
         writtenCandleReplaces();
+        writtenLength();
         writeNoSuchCandle();
         writtenEvents();
         writtenEventsReplace();
         noEventsWritten();
         mostEventsWritten();
         emptyLine();
+        indexFrom0();
         indexOutOfTheLine();
         lineStays();
         typedCount();
@@ -53,8 +55,8 @@ public final class TextsBoundariesTest {
     }
 
     private static void writtenCandle() {
-        Check.sentence("Promise 39", "its number, its voice, \"=\", its wax, \"/\", its consumption, and \"*\" if it is "
-            + "lit; for example \"2t=140/6*\"");
+        Check.sentence("Promise 39", "its number, its voice, \"=\", its wax, \"/\", its consumption, and \"*\" if it "
+            + "is lit; for example \"2t=140/6*\"");
         CandleConcert x = new CandleConcert();
         x.addCandle('s', 1, 1);
         x.addCandle('a', 999, 9);
@@ -92,6 +94,21 @@ public final class TextsBoundariesTest {
         Check.due("for a shorter one", "0a=999/9*", written(x, x.writeCandle(0)));
     }
 
+    private static void writtenLength() {
+        Check.sentence("Promise 39", "Returns the length of the line");
+        CandleConcert x = new CandleConcert();
+        x.addCandle('s', 9, 9);
+        x.addCandle('a', 10, 9);
+        x.addCandle('t', 100, 9);
+        Check.due("shortest", 6, x.writeCandle(0));
+        Check.due("two digits of wax", 7, x.writeCandle(1));
+        Check.due("three digits of wax", 8, x.writeCandle(2));
+        x.setDraught(1);
+        Check.due("two digits of consumption", 9, x.writeCandle(2));
+        x.light(2);
+        Check.due("longest", 10, x.writeCandle(2));
+    }
+
     private static void writeNoSuchCandle() {
         Check.sentence("Promise 39", "Throws `IndexOutOfBoundsException` if there is no such candle");
         CandleConcert empty = new CandleConcert();
@@ -110,8 +127,8 @@ public final class TextsBoundariesTest {
     }
 
     private static void writtenEvents() {
-        Check.sentence("Promise 40", "for each event, in their order, the minute, \"l\" or \"s\", and the candle, with a "
-            + "blank between two; for example \"5l0 5s2 90l1\"");
+        Check.sentence("Promise 40", "for each event, in their order, the minute, \"l\" or \"s\", and the candle, "
+            + "with a blank between two; for example \"5l0 5s2 90l1\"");
         CandleConcert x = Concerts.two();
         x.addCandle('t', 5, 5);
         x.schedule(90, 1, true);
@@ -177,9 +194,21 @@ public final class TextsBoundariesTest {
         Check.due("its last", '6', x.charAt(6));
     }
 
+    private static void indexFrom0() {
+        Check.sentence("Promise 41", "`index`: the index, counted from 0");
+        CandleConcert x = Concerts.two();
+        x.schedule(12, 1, true);
+        x.writeEvents();
+        String line = "12l1";
+        for (int i = 0; i < 4; i++) {
+            Check.due("index " + i, line.charAt(i), x.charAt(i));
+        }
+        Check.refused("index 4", Refusals.INDEX, () -> x.charAt(4));
+    }
+
     private static void indexOutOfTheLine() {
-        Check.sentence("Promise 41", "Throws `IndexOutOfBoundsException` if the index is negative or not less than the "
-            + "length");
+        Check.sentence("Promise 41", "Throws `IndexOutOfBoundsException` if the index is negative or not less than "
+            + "the length");
         CandleConcert x = Concerts.full();
         int length = x.writeEvents();
         Check.due("length", 20 * 5 - 1, length);
@@ -250,7 +279,7 @@ public final class TextsBoundariesTest {
     }
 
     private static void repeatedCommands() {
-        Check.sentence("Terms", "program = command { \";\" command}");
+        Check.sentence("Terms", "program = command { \";\" command .. braces mean zero or more repetitions");
         CandleConcert x = new CandleConcert();
         Check.due("no repetition", 1, Check.run(x, "wait"));
         Check.due("one repetition", 2, Check.run(x, "wait;wait"));
@@ -317,7 +346,8 @@ public final class TextsBoundariesTest {
     }
 
     private static void singleDigits() {
-        Check.sentence("Terms", "\"light \" digit | \"snuff \" digit | \"pour \" digit \"+\" number | \"draught \" digit");
+        Check.sentence("Terms", "\"light \" digit | \"snuff \" digit | \"pour \" digit \"+\" number | \"draught \" "
+            + "digit");
         CandleConcert x = Concerts.ten();
         Check.due("least and greatest", 4, Check.run(x, "light 0;light 9;snuff 9;draught 3"));
         wrong(x, "light 01", 7);
@@ -369,8 +399,8 @@ public final class TextsBoundariesTest {
     }
 
     private static void correspondingCalls() {
-        Check.sentence("Terms", "The commands correspond to addCandle(voice, wax, rate), light(candle), snuff(candle), "
-            + "pour(candle, units), setDraught(draught), schedule(minute, candle, isLighting)");
+        Check.sentence("Terms", "The commands correspond to addCandle(voice, wax, rate), light(candle), "
+            + "snuff(candle), pour(candle, units), setDraught(draught), schedule(minute, candle, isLighting)");
         CandleConcert x = new CandleConcert();
         Check.run(x, "candle s20/6;candle b999/9;candle t12/2");
         Check.run(x, "light 0;light 1;plan 3 s1;plan 2 l2;plan 2 s2;wait 4");
@@ -406,8 +436,8 @@ public final class TextsBoundariesTest {
     }
 
     private static void firstWrongCharacter() {
-        Check.sentence("Terms", "The error position of a text that is not a program is the index of the first character at "
-            + "which no program can continue");
+        Check.sentence("Terms", "The error position of a text that is not a program is the index of the first "
+            + "character at which no program can continue");
         CandleConcert x = new CandleConcert();
         wrong(x, "x", 0);
         wrong(x, "wait;x;y", 5);
@@ -433,8 +463,8 @@ public final class TextsBoundariesTest {
 
     private static void properPrefix() {
         Check.sentence("Terms", "or the length of the text if the text is a proper prefix of a program");
-        String[] programs = {"candle s123/4", "light 5", "snuff 5", "pour 1+234", "draught 1", "plan 123 l4", "plan 1 s2",
-            "drop 123", "wait 123", "wait", "light 1;snuff 2;wait"};
+        String[] programs = {"candle s123/4", "light 5", "snuff 5", "pour 1+234", "draught 1", "plan 123 l4",
+            "plan 1 s2", "drop 123", "wait 123", "wait", "light 1;snuff 2;wait"};
         for (String program : programs) {
             for (int length = 0; length < program.length(); length++) {
                 String text = program.substring(0, length);
@@ -453,7 +483,8 @@ public final class TextsBoundariesTest {
     }
 
     private static void runAllOrNone() {
-        Check.sentence("Promise 43", "executes the commands in order, either all of them or, if one of them fails, none");
+        Check.sentence("Promise 43", "executes the commands in order, either all of them or, if one of them fails, "
+            + "none");
         CandleConcert x = Concerts.lively();
         Check.answer(x::run);
         String state = Answers.ofState(x);
@@ -499,8 +530,8 @@ public final class TextsBoundariesTest {
     }
 
     private static void runNoProgram() {
-        Check.sentence("Promise 43", "Throws `IllegalArgumentException` if the text is not a program; its error position "
-            + "is recorded");
+        Check.sentence("Promise 43", "Throws `IllegalArgumentException` if the text is not a program; its error "
+            + "position is recorded");
         CandleConcert x = Concerts.two();
         wrong(x, "", 0);
         wrong(x, "light 0;", 8);
@@ -516,8 +547,8 @@ public final class TextsBoundariesTest {
     }
 
     private static void commandFails() {
-        Check.sentence("Promise 43", "Throws `UnsupportedOperationException` if a command fails, that is, if the method for "
-            + "it throws an exception; the number of this command, counted from 0, is recorded");
+        Check.sentence("Promise 43", "Throws `UnsupportedOperationException` if a command fails, that is, if the "
+            + "method for it throws an exception; the number of this command, counted from 0, is recorded");
     }
 
     private static void runFailingCandle() {

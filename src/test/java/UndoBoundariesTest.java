@@ -100,8 +100,8 @@ public final class UndoBoundariesTest {
     }
 
     private static void eachKindOfChange() {
-        Check.sentence("Terms", "A change is a successful call of addCandle, light, snuff, pour, setDraught, schedule, "
-            + "unschedule, pass or run");
+        Check.sentence("Terms", "A change is a successful call of addCandle, light, snuff, pour, setDraught, "
+            + "schedule, unschedule, pass or run");
         for (int number = 0; number <= 8; number++) {
             CandleConcert x = Concerts.two();
             for (int i = 0; i < number; i++) {
@@ -182,8 +182,8 @@ public final class UndoBoundariesTest {
     }
 
     private static void otherCallsAreNoChanges() {
-        Check.sentence("Terms", "A change is a successful call of addCandle, light, snuff, pour, setDraught, schedule, "
-            + "unschedule, pass or run");
+        Check.sentence("Terms", "A change is a successful call of addCandle, light, snuff, pour, setDraught, "
+            + "schedule, unschedule, pass or run");
         CandleConcert x = Concerts.two();
         x.save();
         x.type('w');
@@ -200,8 +200,8 @@ public final class UndoBoundariesTest {
     }
 
     private static void everything() {
-        Check.sentence("Terms", "The state that is undone, saved and restored consists of everything except the program "
-            + "buffer, the error position, the failed command and the output line");
+        Check.sentence("Terms", "The state that is undone, saved and restored consists of everything except the "
+            + "program buffer, the error position, the failed command and the output line");
     }
 
     /** Changes all that can change, by one change, a run that goes on with the text that is begun. */
