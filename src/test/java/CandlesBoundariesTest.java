@@ -7,43 +7,44 @@ public final class CandlesBoundariesTest {
     }
 
     public static void main(String[] args) {
-        newConcert();
-        addedVoice();
-        addedWax();
-        addedRate();
-        addWrongVoiceOrNumber();
-        addAnEleventh();
-        addedNumber();
-        litAfterwards();
-        lightNoSuchCandle();
-        lightALitOne();
-        lightWithoutWax();
-        snuffed();
-        snuffNoSuchCandle();
-        snuffAnUnlitOne();
-        pouredUnits();
-        pouredWax();
-        pourOntoNoSuchCandle();
-        pourUnitsOutOfRange();
-        pourOntoALitOne();
-        pourTooMuch();
-        pourMoreThanTheDishHas();
-        setDraught();
-        previousDraught();
-        setDraughtOutOfRange();
-        numberOfCandles();
-        questionsAboutNoSuchCandle();
-        answersOfCandles();
-        numberOfLitCandles();
-        soundingOfEachVoice();
-        soundingOfNoVoice();
-        minutesUntilItGoesOut();
-        minutesLeftWithoutWax();
-        minutesLeftOfEach();
-        ranksFrom0();
-        ranks();
-        ranksOfEqualWax();
-        noSuchRank();
+        Check.test(CandlesBoundariesTest::newConcert);
+        Check.test(CandlesBoundariesTest::addedVoice);
+        Check.test(CandlesBoundariesTest::addedWax);
+        Check.test(CandlesBoundariesTest::addedRate);
+        Check.test(CandlesBoundariesTest::addWrongVoiceOrNumber);
+        Check.test(CandlesBoundariesTest::addAnEleventh);
+        Check.test(CandlesBoundariesTest::addedNumber);
+        Check.test(CandlesBoundariesTest::litAfterwards);
+        Check.test(CandlesBoundariesTest::lightNoSuchCandle);
+        Check.test(CandlesBoundariesTest::lightALitOne);
+        Check.test(CandlesBoundariesTest::lightWithoutWax);
+        Check.test(CandlesBoundariesTest::snuffed);
+        Check.test(CandlesBoundariesTest::snuffNoSuchCandle);
+        Check.test(CandlesBoundariesTest::snuffAnUnlitOne);
+        Check.test(CandlesBoundariesTest::pouredUnits);
+        Check.test(CandlesBoundariesTest::pouredWax);
+        Check.test(CandlesBoundariesTest::pourOntoNoSuchCandle);
+        Check.test(CandlesBoundariesTest::pourUnitsOutOfRange);
+        Check.test(CandlesBoundariesTest::pourOntoALitOne);
+        Check.test(CandlesBoundariesTest::pourTooMuch);
+        Check.test(CandlesBoundariesTest::pourMoreThanTheDishHas);
+        Check.test(CandlesBoundariesTest::setDraught);
+        Check.test(CandlesBoundariesTest::previousDraught);
+        Check.test(CandlesBoundariesTest::setDraughtOutOfRange);
+        Check.test(CandlesBoundariesTest::numberOfCandles);
+        Check.test(CandlesBoundariesTest::questionsAboutNoSuchCandle);
+        Check.test(CandlesBoundariesTest::answersOfCandles);
+        Check.test(CandlesBoundariesTest::numberOfLitCandles);
+        Check.test(CandlesBoundariesTest::soundingOfEachVoice);
+        Check.test(CandlesBoundariesTest::soundingOfNoVoice);
+        Check.test(CandlesBoundariesTest::minutesUntilItGoesOut);
+        Check.test(CandlesBoundariesTest::minutesLeftLitOrNot);
+        Check.test(CandlesBoundariesTest::minutesLeftWithoutWax);
+        Check.test(CandlesBoundariesTest::minutesLeftOfEach);
+        Check.test(CandlesBoundariesTest::ranksFrom0);
+        Check.test(CandlesBoundariesTest::ranks);
+        Check.test(CandlesBoundariesTest::ranksOfEqualWax);
+        Check.test(CandlesBoundariesTest::noSuchRank);
         Check.end();
     }
 
@@ -482,13 +483,34 @@ public final class CandlesBoundariesTest {
             Check.due(what, row[3], x.minutesLeft(0));
             Check.sentence("Promise 18", words);
             Check.due(what, row[3], x.minutesLeftByBurning(0));
-            x.light(0);
-            Check.sentence("Promise 17", "`candle`: the candle, lit or not");
-            Check.due(what + ", lit", row[3], x.minutesLeft(0));
-            Check.sentence("Promise 18", "`candle`: the candle, lit or not");
-            Check.due(what + ", lit", row[3], x.minutesLeftByBurning(0));
             Check.due("wax afterwards", row[0], x.wax(0));
         }
+    }
+
+    private static void minutesLeftLitOrNot() {
+        String words = "`candle`: the candle, lit or not";
+        CandleConcert x = new CandleConcert();
+        x.addCandle('s', 100, 7);
+        Check.sentence("Promise 17", words);
+        Check.due("not lit", 15, x.minutesLeft(0));
+        Check.sentence("Promise 18", words);
+        Check.due("not lit", 15, x.minutesLeftByBurning(0));
+        x.light(0);
+        Check.sentence("Promise 17", words);
+        Check.due("lit", 15, x.minutesLeft(0));
+        Check.sentence("Promise 18", words);
+        Check.due("lit", 15, x.minutesLeftByBurning(0));
+        Check.due("after both it is lit", true, x.isLit(0));
+        x.pass(14);
+        Check.sentence("Promise 17", words);
+        Check.due("lit for its last minute", 1, x.minutesLeft(0));
+        Check.sentence("Promise 18", words);
+        Check.due("lit for its last minute", 1, x.minutesLeftByBurning(0));
+        x.snuff(0);
+        Check.sentence("Promise 17", words);
+        Check.due("snuffed before its last minute", 1, x.minutesLeft(0));
+        Check.sentence("Promise 18", words);
+        Check.due("snuffed before its last minute", 1, x.minutesLeftByBurning(0));
     }
 
     private static void minutesLeftWithoutWax() {

@@ -8,6 +8,15 @@ final class Check {
     private Check() {
     }
 
+    /** One test of a class that has many: what it throws is told as a wrong answer, and the next one goes on. */
+    static void test(Runnable test) {
+        about = "";
+        due("the test", "an end", answer(() -> {
+            test.run();
+            return "an end";
+        }));
+    }
+
     /** The sentence of the document that the next answers are about: it is told ahead of each that is wrong. */
     static void sentence(String where, String words) {
         about = where + ": " + words + "\n    ";

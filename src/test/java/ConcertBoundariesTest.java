@@ -4,33 +4,35 @@ public final class ConcertBoundariesTest {
     }
 
     public static void main(String[] args) {
-        times();
-        draughts();
-        dishes();
-        darkNow();
-        darkAfterOneMinute();
-        darkAfterTheLastEvent();
-        darkAfterTheLastCandle();
-        darkForTheFirstTime();
-        darkAfterMeetingMinutes();
-        darkAfterTheLongest();
-        darkOfFullOnes();
-        predictionsChangeNothing();
-        lastOfSeveral();
-        lastOfOneMinute();
-        snuffedIsNotLast();
-        noLast();
-        loudest();
-        loudestOfSeveral();
-        noLoudest();
-        addedWaxOfAll();
-        addedWaxInParts();
-        burntSoFar();
-        means();
-        meanOfNone();
-        shares();
-        shareOfNone();
-        invariants();
+        Check.test(ConcertBoundariesTest::times);
+        Check.test(ConcertBoundariesTest::draughts);
+        Check.test(ConcertBoundariesTest::dishes);
+        Check.test(ConcertBoundariesTest::darkNow);
+        Check.test(ConcertBoundariesTest::darkAfterOneMinute);
+        Check.test(ConcertBoundariesTest::darkAfterTheLastEvent);
+        Check.test(ConcertBoundariesTest::darkAfterTheLastCandle);
+        Check.test(ConcertBoundariesTest::darkForTheFirstTime);
+        Check.test(ConcertBoundariesTest::darkAfterMeetingMinutes);
+        Check.test(ConcertBoundariesTest::darkAfterTheLongest);
+        Check.test(ConcertBoundariesTest::darkOfFullOnes);
+        Check.test(ConcertBoundariesTest::darkByMinutesAlone);
+        Check.test(ConcertBoundariesTest::darkByLeapsAlone);
+        Check.test(ConcertBoundariesTest::predictionsChangeNothing);
+        Check.test(ConcertBoundariesTest::lastOfSeveral);
+        Check.test(ConcertBoundariesTest::lastOfOneMinute);
+        Check.test(ConcertBoundariesTest::snuffedIsNotLast);
+        Check.test(ConcertBoundariesTest::noLast);
+        Check.test(ConcertBoundariesTest::loudest);
+        Check.test(ConcertBoundariesTest::loudestOfSeveral);
+        Check.test(ConcertBoundariesTest::noLoudest);
+        Check.test(ConcertBoundariesTest::addedWaxOfAll);
+        Check.test(ConcertBoundariesTest::addedWaxInParts);
+        Check.test(ConcertBoundariesTest::burntSoFar);
+        Check.test(ConcertBoundariesTest::means);
+        Check.test(ConcertBoundariesTest::meanOfNone);
+        Check.test(ConcertBoundariesTest::shares);
+        Check.test(ConcertBoundariesTest::shareOfNone);
+        Check.test(ConcertBoundariesTest::invariants);
         Check.end();
     }
 
@@ -205,6 +207,40 @@ public final class ConcertBoundariesTest {
             x.pass(1);
         }
         dark("at last", 0, x);
+    }
+
+    /** One that is asked only the one way, since the other way might lend it an answer. */
+    private static void darkByMinutesAlone() {
+        Check.sentence("Promise 29", "by letting minutes pass on a copy of the concert");
+        CandleConcert x = new CandleConcert();
+        Check.due("without candles", 0, x.minutesUntilDark());
+        x.addCandle('s', 20, 6);
+        x.light(0);
+        Check.due("one lit", 4, x.minutesUntilDark());
+        x.schedule(9, 0, true);
+        Check.due("an event", 9, x.minutesUntilDark());
+        x.setDraught(3);
+        x.pass(3);
+        Check.due("gone out", 6, x.minutesUntilDark());
+        x.unschedule(0);
+        Check.due("the event is gone", 0, x.minutesUntilDark());
+    }
+
+    private static void darkByLeapsAlone() {
+        Check.sentence("Promise 30", "Returns the same number, by going in one leap to each minute at which an event "
+            + "is carried out or a candle goes out");
+        CandleConcert x = new CandleConcert();
+        Check.due("without candles", 0, x.minutesUntilDarkByLeaps());
+        x.addCandle('s', 20, 6);
+        x.light(0);
+        Check.due("one lit", 4, x.minutesUntilDarkByLeaps());
+        x.schedule(9, 0, true);
+        Check.due("an event", 9, x.minutesUntilDarkByLeaps());
+        x.setDraught(3);
+        x.pass(3);
+        Check.due("gone out", 6, x.minutesUntilDarkByLeaps());
+        x.unschedule(0);
+        Check.due("the event is gone", 0, x.minutesUntilDarkByLeaps());
     }
 
     private static void predictionsChangeNothing() {
@@ -396,6 +432,16 @@ public final class ConcertBoundariesTest {
         Check.due("all of it, none drips", 9990, x.burnt());
         x.pass(1);
         Check.due("no more", 9990, x.burnt());
+        CandleConcert y = Concerts.oneLit(999, 5);
+        y.pass(199);
+        Check.due("4 of each 5", 4 * 199, y.burnt());
+        y.pass(1);
+        Check.due("and the last 4", 800, y.burnt());
+        y.pour(0, 199);
+        Check.due("none by pouring", 800, y.burnt());
+        y.light(0);
+        y.pass(1);
+        Check.due("what dripped burns too", 804, y.burnt());
     }
 
     private static void means() {

@@ -7,29 +7,29 @@ public final class EventsBoundariesTest {
     }
 
     public static void main(String[] args) {
-        scheduledMinute();
-        scheduledMinuteLater();
-        scheduleMinuteOutOfRange();
-        scheduleNoSuchCandle();
-        scheduleAtMost20();
-        scheduledKind();
-        scheduledPosition();
-        scheduledPositionAmongEqualMinutes();
-        positionsFrom0();
-        unschedulePositions();
-        unscheduleNoSuchPosition();
-        unscheduledDoesNotHappen();
-        passedMinutes();
-        passOutOfRange();
-        passedDecrease();
-        passedDecreaseOfNothing();
-        passedAtOnceOrOneByOne();
-        numberOfEvents();
-        questionsAboutNoSuchPosition();
-        answersOfEvents();
-        numberOfFailures();
-        latestReason();
-        noReason();
+        Check.test(EventsBoundariesTest::scheduledMinute);
+        Check.test(EventsBoundariesTest::scheduledMinuteLater);
+        Check.test(EventsBoundariesTest::scheduleMinuteOutOfRange);
+        Check.test(EventsBoundariesTest::scheduleNoSuchCandle);
+        Check.test(EventsBoundariesTest::scheduleAtMost20);
+        Check.test(EventsBoundariesTest::scheduledKind);
+        Check.test(EventsBoundariesTest::scheduledPosition);
+        Check.test(EventsBoundariesTest::scheduledPositionAmongEqualMinutes);
+        Check.test(EventsBoundariesTest::positionsFrom0);
+        Check.test(EventsBoundariesTest::unschedulePositions);
+        Check.test(EventsBoundariesTest::unscheduleNoSuchPosition);
+        Check.test(EventsBoundariesTest::unscheduledDoesNotHappen);
+        Check.test(EventsBoundariesTest::passedMinutes);
+        Check.test(EventsBoundariesTest::passOutOfRange);
+        Check.test(EventsBoundariesTest::passedDecrease);
+        Check.test(EventsBoundariesTest::passedDecreaseOfNothing);
+        Check.test(EventsBoundariesTest::passedAtOnceOrOneByOne);
+        Check.test(EventsBoundariesTest::numberOfEvents);
+        Check.test(EventsBoundariesTest::questionsAboutNoSuchPosition);
+        Check.test(EventsBoundariesTest::answersOfEvents);
+        Check.test(EventsBoundariesTest::numberOfFailures);
+        Check.test(EventsBoundariesTest::latestReason);
+        Check.test(EventsBoundariesTest::noReason);
         Check.end();
     }
 

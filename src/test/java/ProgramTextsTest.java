@@ -3,7 +3,8 @@ public final class ProgramTextsTest {
     private static final String[] PROGRAMS = {"candle s12/3", "candle b999/9", "light 0", "snuff 1", "pour 0+3",
         "pour 1+100", "draught 2", "plan 7 l0", "plan 123 s1", "drop 0", "drop 012", "wait", "wait 2", "wait 240",
         "light 0;wait", "wait;snuff 1", "wait 1;drop 0;wait"};
-    private static final char[] WIDE = {128, 176, 255, 256, 256 + 's', 256 + ';', 0x0661, 0xff10, 0xffff};
+    private static final char[] WIDE = {128, 176, 255, 256, 256 + 's', 256 + ';', 256 + '0', 128 + '9', 0x0661,
+        0xff10, 0xffff};
 
     private ProgramTextsTest() {
     }

@@ -15,37 +15,37 @@ public final class PromisesTest {
     }
 
     public static void main(String[] args) {
-        newObject();
-        addCandle();
-        light();
-        snuff();
-        pour();
-        setDraught();
-        schedule();
-        unschedule();
-        pass();
-        passWithEvents();
-        propertiesOfCandles();
-        minutesLeft();
-        candleByWax();
-        propertiesOfEvents();
-        failures();
-        darkness();
-        lastCandle();
-        voices();
-        accounts();
-        consistency();
-        output();
-        typing();
-        running();
-        everyCommand();
-        syntaxErrors();
-        failedCommands();
-        undo();
-        undoOfEachChange();
-        undoOfFailures();
-        undoOfEverything();
-        saveAndRestore();
+        Check.test(PromisesTest::newObject);
+        Check.test(PromisesTest::addCandle);
+        Check.test(PromisesTest::light);
+        Check.test(PromisesTest::snuff);
+        Check.test(PromisesTest::pour);
+        Check.test(PromisesTest::setDraught);
+        Check.test(PromisesTest::schedule);
+        Check.test(PromisesTest::unschedule);
+        Check.test(PromisesTest::pass);
+        Check.test(PromisesTest::passWithEvents);
+        Check.test(PromisesTest::propertiesOfCandles);
+        Check.test(PromisesTest::minutesLeft);
+        Check.test(PromisesTest::candleByWax);
+        Check.test(PromisesTest::propertiesOfEvents);
+        Check.test(PromisesTest::failures);
+        Check.test(PromisesTest::darkness);
+        Check.test(PromisesTest::lastCandle);
+        Check.test(PromisesTest::voices);
+        Check.test(PromisesTest::accounts);
+        Check.test(PromisesTest::consistency);
+        Check.test(PromisesTest::output);
+        Check.test(PromisesTest::typing);
+        Check.test(PromisesTest::running);
+        Check.test(PromisesTest::everyCommand);
+        Check.test(PromisesTest::syntaxErrors);
+        Check.test(PromisesTest::failedCommands);
+        Check.test(PromisesTest::undo);
+        Check.test(PromisesTest::undoOfEachChange);
+        Check.test(PromisesTest::undoOfFailures);
+        Check.test(PromisesTest::undoOfEverything);
+        Check.test(PromisesTest::saveAndRestore);
         Check.end();
     }
 

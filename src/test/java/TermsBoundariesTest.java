@@ -4,33 +4,33 @@ public final class TermsBoundariesTest {
     }
 
     public static void main(String[] args) {
-        lastOf512Calls();
-        lastOf512Changes();
-        refusedChanges();
-        refusedQuestions();
-        refusedWaysBack();
-        refusedTyping();
-        refusedPrograms();
-        firstOfTheExceptions();
-        divisions();
-        candlesAtMost();
-        ranges();
-        newCandleIsNotLit();
-        draughts();
-        consumptions();
-        newDish();
-        eventsAtMost();
-        orderOfEvents();
-        failureOfALitOne();
-        failureOfOneWithoutWax();
-        failureOfAnUnlitOne();
-        failedEventsLeaveTheCandle();
-        timeFirst();
-        eventsSecond();
-        burningThird();
-        dripping();
-        goingOut();
-        darkness();
+        Check.test(TermsBoundariesTest::lastOf512Calls);
+        Check.test(TermsBoundariesTest::lastOf512Changes);
+        Check.test(TermsBoundariesTest::refusedChanges);
+        Check.test(TermsBoundariesTest::refusedQuestions);
+        Check.test(TermsBoundariesTest::refusedWaysBack);
+        Check.test(TermsBoundariesTest::refusedTyping);
+        Check.test(TermsBoundariesTest::refusedPrograms);
+        Check.test(TermsBoundariesTest::firstOfTheExceptions);
+        Check.test(TermsBoundariesTest::divisions);
+        Check.test(TermsBoundariesTest::candlesAtMost);
+        Check.test(TermsBoundariesTest::ranges);
+        Check.test(TermsBoundariesTest::newCandleIsNotLit);
+        Check.test(TermsBoundariesTest::draughts);
+        Check.test(TermsBoundariesTest::consumptions);
+        Check.test(TermsBoundariesTest::newDish);
+        Check.test(TermsBoundariesTest::eventsAtMost);
+        Check.test(TermsBoundariesTest::orderOfEvents);
+        Check.test(TermsBoundariesTest::failureOfALitOne);
+        Check.test(TermsBoundariesTest::failureOfOneWithoutWax);
+        Check.test(TermsBoundariesTest::failureOfAnUnlitOne);
+        Check.test(TermsBoundariesTest::failedEventsLeaveTheCandle);
+        Check.test(TermsBoundariesTest::timeFirst);
+        Check.test(TermsBoundariesTest::eventsSecond);
+        Check.test(TermsBoundariesTest::burningThird);
+        Check.test(TermsBoundariesTest::dripping);
+        Check.test(TermsBoundariesTest::goingOut);
+        Check.test(TermsBoundariesTest::darkness);
         Check.end();
     }
 

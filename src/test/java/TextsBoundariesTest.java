@@ -7,44 +7,44 @@ public final class TextsBoundariesTest {
     }
 
     public static void main(String[] args) {
-        writtenCandle();
-        writtenCandleReplaces();
-        writtenLength();
-        writeNoSuchCandle();
-        writtenEvents();
-        writtenEventsReplace();
-        noEventsWritten();
-        mostEventsWritten();
-        emptyLine();
-        indexFrom0();
-        indexOutOfTheLine();
-        lineStays();
-        typedCount();
-        typedTooMuch();
-        typedAnything();
-        repeatedCommands();
-        optionalNumber();
-        digitsOfNumbers();
-        singleDigits();
-        alternatives();
-        voices();
-        correspondingCalls();
-        waitOfOneMinute();
-        firstWrongCharacter();
-        properPrefix();
-        runAllOrNone();
-        emptyAfterwards();
-        numberOfCommands();
-        runNoProgram();
-        runFailingCandle();
-        runFailingLightAndSnuff();
-        runFailingPour();
-        runFailingDraughtAndWait();
-        runFailingPlanAndDrop();
-        latestErrorPosition();
-        noErrorPosition();
-        latestFailedCommand();
-        noFailedCommand();
+        Check.test(TextsBoundariesTest::writtenCandle);
+        Check.test(TextsBoundariesTest::writtenCandleReplaces);
+        Check.test(TextsBoundariesTest::writtenLength);
+        Check.test(TextsBoundariesTest::writeNoSuchCandle);
+        Check.test(TextsBoundariesTest::writtenEvents);
+        Check.test(TextsBoundariesTest::writtenEventsReplace);
+        Check.test(TextsBoundariesTest::noEventsWritten);
+        Check.test(TextsBoundariesTest::mostEventsWritten);
+        Check.test(TextsBoundariesTest::emptyLine);
+        Check.test(TextsBoundariesTest::indexFrom0);
+        Check.test(TextsBoundariesTest::indexOutOfTheLine);
+        Check.test(TextsBoundariesTest::lineStays);
+        Check.test(TextsBoundariesTest::typedCount);
+        Check.test(TextsBoundariesTest::typedTooMuch);
+        Check.test(TextsBoundariesTest::typedAnything);
+        Check.test(TextsBoundariesTest::repeatedCommands);
+        Check.test(TextsBoundariesTest::optionalNumber);
+        Check.test(TextsBoundariesTest::digitsOfNumbers);
+        Check.test(TextsBoundariesTest::singleDigits);
+        Check.test(TextsBoundariesTest::alternatives);
+        Check.test(TextsBoundariesTest::voices);
+        Check.test(TextsBoundariesTest::correspondingCalls);
+        Check.test(TextsBoundariesTest::waitOfOneMinute);
+        Check.test(TextsBoundariesTest::firstWrongCharacter);
+        Check.test(TextsBoundariesTest::properPrefix);
+        Check.test(TextsBoundariesTest::runAllOrNone);
+        Check.test(TextsBoundariesTest::emptyAfterwards);
+        Check.test(TextsBoundariesTest::numberOfCommands);
+        Check.test(TextsBoundariesTest::runNoProgram);
+        Check.test(TextsBoundariesTest::runFailingCandle);
+        Check.test(TextsBoundariesTest::runFailingLightAndSnuff);
+        Check.test(TextsBoundariesTest::runFailingPour);
+        Check.test(TextsBoundariesTest::runFailingDraughtAndWait);
+        Check.test(TextsBoundariesTest::runFailingPlanAndDrop);
+        Check.test(TextsBoundariesTest::latestErrorPosition);
+        Check.test(TextsBoundariesTest::noErrorPosition);
+        Check.test(TextsBoundariesTest::latestFailedCommand);
+        Check.test(TextsBoundariesTest::noFailedCommand);
         Check.end();
     }
 
@@ -264,7 +264,8 @@ public final class TextsBoundariesTest {
 
     private static void typedAnything() {
         Check.sentence("Promise 42", "`character`: any character");
-        char[] characters = {0, 1, 10, 127, 128, 255, 256, 0x177, 0xd800, 0xdc00, 0xfffe, 0xffff};
+        char[] characters = {0, 1, 10, 127, 128, 255, 256, 256 + 'w', 256 + '1', 128 + '1', 0x0661, 0xff11,
+            0xd800, 0xdc00, 0xffff};
         for (char character : characters) {
             CandleConcert x = new CandleConcert();
             Check.due("typed " + (int) character, 1, x.type(character));
@@ -378,8 +379,11 @@ public final class TextsBoundariesTest {
         Check.due("planned", "5l1 6s1", Answers.ofLine(x));
         Check.due("wax poured", 12 - 3 + 2, x.wax(1));
         String[] others = {"Light 0", "lit 0", "snub 0", "put 0+1", "play 1 l0", "drip 0", "drift", "wake", "can", "x",
-            "plan 1 x0", "plan 1 L0", "pour 0-1", "candle s1 1", "undo", "save"};
-        int[] positions = {0, 2, 3, 1, 3, 2, 2, 2, 3, 0, 7, 7, 6, 9, 0, 1};
+            "plan 1 x0", "plan 1 L0", "pour 0-1", "candle s1 1", "undo", "save", "daught 1", "dop 0", "pan 1 l0",
+            "pur 0+1", "draop 0", "drught 1", "ight 0", "light0", "light  0"};
+        int[] positions = {0, 2, 3, 1, 3, 2, 2, 2, 3, 0,
+            7, 7, 6, 9, 0, 1, 1, 1, 1,
+            1, 3, 2, 0, 5, 6};
         for (int i = 0; i < others.length; i++) {
             wrong(x, others[i], positions[i]);
         }

@@ -6,31 +6,32 @@ public final class UndoBoundariesTest {
     }
 
     public static void main(String[] args) {
-        eightLatest();
-        eightLatestAfterMany();
-        eightLatestOfEveryKind();
-        eachKindOfChange();
-        runIsOneChange();
-        changeToTheSame();
-        refusedCallsAreNoChanges();
-        failedRunsAreNoChanges();
-        otherCallsAreNoChanges();
-        undoneIsEverything();
-        undoneIsNotTheRest();
-        restoredIsEverything();
-        restoredIsNotTheRest();
-        leftToUndo();
-        latestThatWasNotUndone();
-        nothingToUndo();
-        savedInPlace();
-        savedIsApart();
-        savedCandles();
-        savedTwice();
-        staysSaved();
-        noUndoAfterRestore();
-        eightLatestAfterRestore();
-        restoredCandles();
-        nothingSaved();
+        Check.test(UndoBoundariesTest::eightLatest);
+        Check.test(UndoBoundariesTest::eightLatestAfterMany);
+        Check.test(UndoBoundariesTest::eightLatestOfEveryKind);
+        Check.test(UndoBoundariesTest::eachKindOfChange);
+        Check.test(UndoBoundariesTest::runIsOneChange);
+        Check.test(UndoBoundariesTest::changeToTheSame);
+        Check.test(UndoBoundariesTest::refusedCallsAreNoChanges);
+        Check.test(UndoBoundariesTest::failedRunsAreNoChanges);
+        Check.test(UndoBoundariesTest::otherCallsAreNoChanges);
+        Check.test(UndoBoundariesTest::undoneIsEverything);
+        Check.test(UndoBoundariesTest::undoneIsNotTheRest);
+        Check.test(UndoBoundariesTest::restoredIsEverything);
+        Check.test(UndoBoundariesTest::restoredCandlesInThePlaceOfOthers);
+        Check.test(UndoBoundariesTest::restoredIsNotTheRest);
+        Check.test(UndoBoundariesTest::leftToUndo);
+        Check.test(UndoBoundariesTest::latestThatWasNotUndone);
+        Check.test(UndoBoundariesTest::nothingToUndo);
+        Check.test(UndoBoundariesTest::savedInPlace);
+        Check.test(UndoBoundariesTest::savedIsApart);
+        Check.test(UndoBoundariesTest::savedCandles);
+        Check.test(UndoBoundariesTest::savedTwice);
+        Check.test(UndoBoundariesTest::staysSaved);
+        Check.test(UndoBoundariesTest::noUndoAfterRestore);
+        Check.test(UndoBoundariesTest::eightLatestAfterRestore);
+        Check.test(UndoBoundariesTest::restoredCandles);
+        Check.test(UndoBoundariesTest::nothingSaved);
         Check.end();
     }
 
@@ -262,6 +263,22 @@ public final class UndoBoundariesTest {
         x.addCandle('a', 7, 7);
         x.restore();
         Check.due("state", state, Answers.ofState(x));
+    }
+
+    private static void restoredCandlesInThePlaceOfOthers() {
+        everything();
+        CandleConcert x = Concerts.two();
+        x.addCandle('t', 100, 9);
+        x.light(2);
+        x.save();
+        String state = Answers.ofState(x);
+        x.undo();
+        x.undo();
+        x.addCandle('a', 7, 1);
+        x.schedule(3, 2, true);
+        x.restore();
+        Check.due("state", state, Answers.ofState(x));
+        Check.due("voice", 't', x.voice(2));
     }
 
     private static void restoredIsNotTheRest() {
