@@ -69,20 +69,24 @@ public final class UndoBoundariesTest {
 
     private static void eightLatestOfEveryKind() {
         Check.sentence("Terms", "The 8 latest changes can be undone");
-        CandleConcert x = Concerts.two();
-        x.pass(1);
-        x.light(1);
-        String[] states = new String[9];
-        for (int i = 0; i <= 8; i++) {
-            states[i] = Answers.ofState(x);
-            change(x, i);
-        }
+        CandleConcert x = afterChanges(9);
         for (int i = 8; i >= 1; i--) {
             Check.due("undo", i - 1, Check.answer(x::undo));
-            Check.due("state " + i, states[i], Answers.ofState(x));
+            Check.due("state " + i, Answers.ofState(afterChanges(i)), Answers.ofState(x));
         }
         Check.refused("the ninth", Refusals.STATE, () -> x.undo());
-        Check.due("state", states[1], Answers.ofState(x));
+        Check.due("state", Answers.ofState(afterChanges(1)), Answers.ofState(x));
+    }
+
+    /** Two candles, one of them burning, and so many of the changes that follow. */
+    private static CandleConcert afterChanges(int changes) {
+        CandleConcert x = Concerts.two();
+        x.light(1);
+        x.pass(1);
+        for (int i = 0; i < changes; i++) {
+            change(x, i);
+        }
+        return x;
     }
 
     /** Changes that follow one another: one of each kind, and a last one. */
@@ -104,10 +108,7 @@ public final class UndoBoundariesTest {
         Check.sentence("Terms", "A change is a successful call of addCandle, light, snuff, pour, setDraught, "
             + "schedule, unschedule, pass or run");
         for (int number = 0; number <= 8; number++) {
-            CandleConcert x = Concerts.two();
-            for (int i = 0; i < number; i++) {
-                change(x, i);
-            }
+            CandleConcert x = afterChanges(number);
             x.save();
             x.restore();
             String state = Answers.ofState(x);
